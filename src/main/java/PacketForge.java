@@ -350,7 +350,7 @@ public final class PacketForge {
 
         /** The index of the new item. */
         int append(int kind, int level, int name, int width, int number) {
-            int item = Math.min(count, MOST_ITEMS - 1);
+            int item = count < MOST_ITEMS ? count : MOST_ITEMS - 1;
             kinds[item] = kind;
             levels[item] = level;
             names[item] = name;
@@ -476,7 +476,7 @@ public final class PacketForge {
 
         /** Behind a fault nothing more is seen, so that all that is open comes to its end. */
         private int seen() {
-            return fault == 0 && place < text.count ? text.at(place) : END;
+            return fault == 0 && place < text.count ? text.cells[place] : END;
         }
 
         private void expect(int c) {
@@ -548,7 +548,10 @@ public final class PacketForge {
                 case '?':
                     failUnlessCounts(name, nameAt);
                     place++;
-                    return parseOptionOrCase(name, level);
+                    if (isDigit(seen())) {
+                        return parseWithList(CASE, level, name, parseNumber(0, GREATEST_NUMBER));
+                    }
+                    return parseWithList(OPTION, level, name, 0);
                 default:
                     fail(NOT_A_LAYOUT, place);
                     return NONE;
@@ -592,14 +595,6 @@ public final class PacketForge {
             expect(kind == XOR_CHECK ? 'x' : 's');
             layout.append(kind, level, 0, 8, 0);
             return kind;
-        }
-
-        private int parseOptionOrCase(int name, int level) {
-            if (!isDigit(seen())) {
-                return parseWithList(OPTION, level, name, 0);
-            }
-            int number = parseNumber(0, GREATEST_NUMBER);
-            return parseWithList(CASE, level, name, number);
         }
 
         private int parseWithList(int kind, int level, int name, int number) {
