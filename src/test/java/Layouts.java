@@ -12,15 +12,44 @@ final class Layouts {
     }
 
     String text() {
-        String whole = list(new ArrayList<>(), 0, 1 + random.nextInt(5));
-        if (random.nextInt(3) == 0) {
-            List<String> known = new ArrayList<>();
-            String first = field(known);
-            whole += ";.(" + first + ";" + list(known, 1, 1 + random.nextInt(2)) + wholeBytes() + ")";
-        } else {
-            whole += wholeBytes();
+        int style = random.nextInt(12);
+        if (style == 0) {
+            return plain();
         }
-        return whole;
+        if (style == 1) {
+            return deep();
+        }
+        String whole = list(new ArrayList<>(), 0, 1 + random.nextInt(5));
+        return random.nextInt(3) == 0 ? whole + ";" + rest() : whole + wholeBytes();
+    }
+
+    /** Few items that take all there is, so that packets and records get full. */
+    private String plain() {
+        String field = "b:" + (1 + random.nextInt(24));
+        switch (random.nextInt(3)) {
+            case 0:
+                return ".(" + field + ")";
+            case 1:
+                return "a:8;.(" + field + (random.nextBoolean() ? ";#x)" : ")");
+            default:
+                return "a:8;a*(" + field + ")" + (random.nextBoolean() ? ";_" : ";=1:3");
+        }
+    }
+
+    private String deep() {
+        int open = 4 + random.nextInt(4);
+        StringBuilder text = new StringBuilder("a:3");
+        for (int k = 0; k < open; k++) {
+            text.append(k == 0 ? ';' : '(').append(random.nextBoolean() ? "a?" : "a?" + random.nextInt(4));
+        }
+        return text + "(b:5)" + ")".repeat(open - 1) + wholeBytes();
+    }
+
+    private String rest() {
+        List<String> known = new ArrayList<>();
+        String first = field(known);
+        String list = list(known, 1, 1 + random.nextInt(2));
+        return ".(" + first + ";" + list + wholeBytes() + ")" + (random.nextInt(12) == 0 ? ";_" : "");
     }
 
     private String wholeBytes() {
@@ -75,6 +104,9 @@ final class Layouts {
             List<String> inside = new ArrayList<>(known);
             String first = random.nextInt(12) == 0 ? "_" : field(inside);
             return name + "*(" + first + (random.nextBoolean() ? "" : ";" + list(inside, open + 1, items)) + ")";
+        }
+        if (random.nextInt(40) == 0) {
+            return name + "?(" + rest() + ")";
         }
         String number = kind == 8 ? "" : String.valueOf(random.nextInt(random.nextBoolean() ? 4 : 999));
         return name + "?" + number + "(" + list(known, open + 1, items) + ")";

@@ -10,12 +10,15 @@ import java.util.Set;
  * texts of 0 and 1, and refusals as exceptions. It is there to be compared with.
  */
 final class Model {
+    /** The answer where the document leaves it open which fault a text has. */
+    static final int OPEN = -1;
+
     static final class Refused extends RuntimeException {
         private static final long serialVersionUID = 1L;
         final int answer;
 
         Refused(int what, int where) {
-            answer = 1000 * what + where;
+            answer = what == OPEN ? OPEN : 1000 * what + where;
         }
     }
 
@@ -65,8 +68,8 @@ final class Model {
             if (item.kind == ':') {
                 known.add(item.name);
             }
-            if (item.kind == '.' && (see() == ';' || see() == ')' && open > 0)) {
-                throw new Refused(5, at);
+            if (item.kind == '.' && (see() == ';' || see() == ')')) {
+                throw new Refused(see() == ')' && open == 0 ? OPEN : 5, at);
             }
             if (see() != ';') {
                 return items;
