@@ -83,6 +83,10 @@ final class WriteRefusedTest {
         due(".(a:8;b:8)", 0, 1, 2, 3, 4);
         due("_", 0);
         due("#x", 0);
+        due("a:8;a*(b:1);_", 0, ones(59, 59));
+        due("a:8;a*(b:1);_", 12067, ones(60, 59));
+        due("a:8;a*(b:1);c:1", 12067, ones(59, 59));
+        due(".(a:1;b:1;c:1;d:1;e:1;f:1;g:1)", 12060, ones(1, 59));
     }
 
     /** "Behind the list no values may be left (else 13)", with "how many bits there are". */
